@@ -374,9 +374,9 @@ public final class DeckFront {
             return true;
         }
 
-        /** Goes back to a place and forgets what was found from there on, none of it behind at. */
+        /** Goes back to a place and forgets what was found from there on, all of it before at. */
         final void goBackTo(int place) {
-            for (int i = place; i <= at && i < length; i++) {
+            for (int i = place; i < at && i < length; i++) {
                 opens[i] = 0;
                 closes[i] = 0;
                 roles[i] = PLAIN;

@@ -98,10 +98,16 @@ public final class CardTest {
             PROBE.due("statements()", i + 1, deck.statements());
             PROBE.due("label of '" + cards[i] + "'", labels[i], deck.label(i));
         }
+        for (int columns = 1; columns <= 5; columns++) {
+            Probe.card(deck, "98765 X=1");
+            PROBE.due("nothing of the card before", 12345 / (int) Math.pow(10, 5 - columns),
+                    deck.label(Probe.card(deck, "12345".substring(0, columns))));
+            PROBE.due("a short card of blanks", DeckFront.NONE, Probe.card(deck, "     ".substring(0, columns)));
+        }
         PROBE.due("a label and no text is none of them", 0, deck.what(0));
         PROBE.due("no text shown", "", Probe.shown(deck, 0));
         PROBE.due("column 6 is no text", "X=1", Probe.shown(deck, 6));
-        for (int statement : new int[] {-1, cards.length, 24, Integer.MIN_VALUE, Integer.MAX_VALUE}) {
+        for (int statement : new int[] {-1, cards.length + 10, 24, Integer.MIN_VALUE, Integer.MAX_VALUE}) {
             PROBE.due("label(" + statement + ")", DeckFront.NONE, deck.label(statement));
         }
     }
@@ -217,5 +223,33 @@ public final class CardTest {
         deck.clear();
         Probe.add(deck, "ZZ TOP AND MORE OF IT");
         PROBE.due("no marks of old ones", "ZZTOPANDMOREOFIT", Probe.shown(deck, 0));
+        deck.clear();
+        Probe.add(deck, "X='A");
+        deck.clear();
+        Probe.add(deck, "X = 1");
+        PROBE.due("no quote of old ones", "X=1", Probe.shown(deck, 0));
+        clearedRowsAreAsNew();
+    }
+
+    /** Each beginning of a statement, behind the whole of it on the same row, against a new object. */
+    private static void clearedRowsAreAsNew() {
+        String[] texts = {"X='A'+B(1)", "GOTO12345", "DO00123I=(A+B)*C,-D,E**F**G", "CALLABCDEF(A,B)", "ABCDEF=1.5E10",
+            "DIMENSIONA(123),B(4)", "REALABC,DEF", "IF(.NOT..NOT.A)GOTO(010,20),(I)", "PRINT*,((A)+(B))"};
+        for (String text : texts) {
+            for (int end = 0; end <= text.length(); end++) {
+                DeckFront used = Probe.deck("12345:" + text);
+                used.clear();
+                Probe.add(used, text.substring(0, end));
+                DeckFront fresh = Probe.deck(text.substring(0, end));
+                String call = " of " + text.substring(0, end) + " behind " + text;
+                PROBE.due("what" + call, fresh.what(0), used.what(0));
+                PROBE.due("shown" + call, Probe.shown(fresh, 0), Probe.shown(used, 0));
+                PROBE.due("label" + call, 0, used.label(0));
+                PROBE.due("fault" + call, fresh.fault(), used.fault());
+                for (String name : "A B C I X ABC ABCDEF ABCDE DEF".split(" ")) {
+                    PROBE.due("kind of " + name + call, fresh.kind(Probe.word(name)), used.kind(Probe.word(name)));
+                }
+            }
+        }
     }
 }

@@ -171,6 +171,13 @@ public final class FaultTest {
         Probe.card(deck, "     1X");
         PROBE.due("fault() when the END is none", 1, deck.fault());
         PROBE.due("faultAt() when the END is none", 2, deck.faultAt());
+        DeckFront branch = Probe.deck("IF(A)THEN", "X=1");
+        PROBE.due("fault() in an IF THEN", 7, branch.fault());
+        Probe.add(branch, "ENDIF");
+        PROBE.due("fault() behind it", 7, branch.fault());
+        PROBE.due("faultAt() behind it", 2, branch.faultAt());
+        Probe.add(branch, "END");
+        PROBE.due("fault() at its END", 0, branch.fault());
         deck.clear();
         PROBE.due("fault() when cleared", 0, deck.fault());
     }

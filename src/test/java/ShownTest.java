@@ -104,6 +104,11 @@ public final class ShownTest {
         shows("GO TO (1) (I + 1)", "GOTO(1)(I+1)");
         shows("GO TO (1), (I)", "GOTO(1)I");
         shows("GO TO (1, 02) - I", "GOTO(1,2)(-I)");
+        shows("DO 10 I = A.OR.B, C.OR.D, E.OR.F", "DO10I=(A.OR.B),(C.OR.D),(E.OR.F)");
+        shows("IF (A.OR.B) STOP", "IF((A.OR.B))STOP");
+        shows("GO TO (1), A.OR.B", "GOTO(1)(A.OR.B)");
+        shows("CALL S(A.OR.B, C.OR.D)", "CALLS((A.OR.B),(C.OR.D))");
+        shows("PRINT*, A.OR.B, C.OR.D", "PRINT*,(A.OR.B),(C.OR.D)");
         shows("GO TO 007 X", "GOTO007X");
         shows("X = (A + B", "X=(A+B");
         shows("IF ((A)) DO 007, I = (1), 2", "IF((A))DO007,I=(1),2");
