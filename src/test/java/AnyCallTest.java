@@ -1,8 +1,8 @@
 /** Many runs of calls, made by a fixed rule: none throws what it must not, and what is shown reads as itself. */
 public final class AnyCallTest {
-    private static final String[] PIECES = {"A", "B(", "F()", "I", "1", "2.", ".5E3", "10", "(", ")", ",", "=", "+", "-",
-        "*", "/", "**", ".OR.", ".AND.", ".NOT.", ".LT.", ".EQ.", ".TRUE.", "'", "'A B'", "DO", "IF(", ")THEN", "ELSE",
-        "ENDIF", "GOTO", "GOTO(", "CALL", "PRINT*,", "END", "REAL", "DIMENSION", "CONTINUE", "STOP", " ", "."};
+    private static final String[] PIECES = {"A", "B(", "F()", "I", "1", "2.", ".5E3", "10", "(", ")", ",", "=", "+",
+        "-", "*", "/", "**", ".OR.", ".AND.", ".NOT.", ".LT.", ".EQ.", ".TRUE.", "'", "'A B'", "DO", "IF(", ")THEN",
+        "ELSE", "ENDIF", "GOTO", "GOTO(", "CALL", "PRINT*,", "END", "REAL", "DIMENSION", "CONTINUE", "STOP", " ", "."};
     private static final String[] PRIMARIES = {"A", "B1", "3", "1.", ".5", "2.E3", "F()", ".TRUE.", "'Q, ='", "-X"};
     private static final String[] BETWEEN = {"+", "-", "*", "/", "**", ".OR.", ".AND.", ".LT.", ".EQ.", ".GE."};
 

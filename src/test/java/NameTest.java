@@ -1,8 +1,8 @@
 /** Promises 9 and 10: kinds and types of names. */
 public final class NameTest {
     private static final Probe PROBE = new Probe();
-    private static final String[] NO_NAMES = {"", "1", "1A", "ABCDEFG", "ABCDEFGH", "A B", " A", "A ", "A.", "a", "A\u00ff",
-        "A'", "(", "ABCDEF1"};
+    private static final String[] NO_NAMES = {"", "1", "1A", "ABCDEFG", "ABCDEFGH", "A B", " A", "A ", "A.", "a",
+        "A\u00ff", "A'", "(", "ABCDEF1"};
 
     private static void kind(DeckFront deck, String name, int want) {
         PROBE.due("kind of " + name, want, deck.kind(Probe.word(name)));

@@ -24,6 +24,36 @@ final class Probe {
         }
     }
 
+    /** What each of these texts is, alone in a deck. */
+    void is(int want, String... texts) {
+        for (String text : texts) {
+            DeckFront deck = new DeckFront();
+            due("card of " + text, 0, add(deck, text));
+            due("what of " + text, want, deck.what(0));
+        }
+    }
+
+    /** How a text is shown, alone in a deck. */
+    void shows(String text, String want) {
+        DeckFront deck = new DeckFront();
+        due("card of " + text, 0, add(deck, text));
+        due("shown of " + text, want, shown(deck, 0));
+    }
+
+    /** The first fault of a program, whose statements are parted by semicolons, and where it is. */
+    void fault(int want, int wantAt, String program) {
+        DeckFront deck = deck(program.split(";", -1));
+        due("fault of " + program, want, deck.fault());
+        due("faultAt of " + program, wantAt, deck.faultAt());
+        due("faultAt of " + program + " again", wantAt, deck.faultAt());
+        due("fault of " + program + " again", want, deck.fault());
+    }
+
+    /** A program without a fault. */
+    void good(String program) {
+        fault(0, DeckFront.NONE, program);
+    }
+
     /** Ends the test, with exit code 1 if something was wrong. */
     void end() {
         System.out.println(wrong == 0 ? "all answers are as due" : wrong + " answers are not as due");
