@@ -308,5 +308,12 @@ public final class StructureEdgeTest {
         desk.card("      END");
         PROBE.due("fault() of the whole", 0, desk.ask().fault());
         PROBE.due("faultAt() of the whole", DeckFront.NONE, desk.ask().faultAt());
+        desk.ask().clear();
+        desk.card("      IF(A)THEN");
+        desk.card("      X=1");
+        PROBE.due("fault() with an open IF THEN", 7, desk.ask().fault());
+        desk.ask().clear();
+        desk.card("      END");
+        PROBE.due("nothing is open from the deck before", 0, desk.ask().fault());
     }
 }

@@ -86,6 +86,8 @@ public final class WhatEdgeTest {
         PROBE.is(0, "DO1I=1,2,3,4", "DO1I=", "DO1I=1,", "DO1I=,2", "DO1I=1,2,", "DO1I=1,,2", "DO1I=,");
         PROBE.is(0, "DO1I=(1,2)", "DO1,I=(1)");
         PROBE.is(2, "DO1I=F(1,2)", "DO1I=(1)");
+        PROBE.is(1, "DO1I=A.OR.B,C.OR.D", "DO1I=A.OR.B,C.OR.D,E.OR.F");
+        PROBE.is(0, "DO1I=A.OR.,C", "DO1I=A,C.OR.", "DO1I=A,C,E.OR.");
     }
 
     /** "a name, perhaps ( expressions with commas between ), =, an expression." */
@@ -192,7 +194,9 @@ public final class WhatEdgeTest {
         PROBE.is(0, "GOTO(123456)I", "GOTO(1,000001)I", "GOTO(1,)I", "GOTO(,1)I", "GOTO(1,,2)I", "GOTO(A)I",
                 "GOTO(1.)I", "GOTO((1))I");
         PROBE.is(17, "GOTO(1)I", "GOTO(1),I", "GOTO(1),-I", "GOTO(1)-I", "GOTO(1)(I)", "GOTO(1)2", "GOTO(1),.NOT.I");
-        PROBE.is(0, "GOTO(1),,I", "GOTO(1)", "GOTO(1),", "GOTO(1)I,", "GOTO(1)I,J", "GOTO(1I", "GOTO1)I", "GOTO1,I");
+        PROBE.is(17, "GOTO(1)A.OR.B", "GOTO(1),A.OR.B");
+        PROBE.is(0, "GOTO(1)A.OR.", "GOTO(1),.OR.B", "GOTO(1),,I", "GOTO(1)", "GOTO(1),", "GOTO(1)I,", "GOTO(1)I,J",
+                "GOTO(1I", "GOTO1)I", "GOTO1,I");
     }
 
     /** "0 NONE, if it is none of these." */
