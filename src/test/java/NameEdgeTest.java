@@ -11,6 +11,7 @@ public final class NameEdgeTest {
         bytesOfANumber();
         typesByLetter();
         theFirstThatNamesIt();
+        namesInFullTexts();
         askingChangesNothing();
         PROBE.end();
     }
@@ -108,6 +109,14 @@ public final class NameEdgeTest {
                     "STOP", "PRINT*,A.OR.B.AND..NOT.C.LT.D", "REALX", "X=.TRUE..OR..FALSE.", "X=1E5+2.E5", "GOTO(1)I",
                     "END");
         }
+        // A name stands where it stands, whatever the same signs are elsewhere in the statement.
+        kind(4, "A", "A=BA");
+        kind(4, "A", "BA=A");
+        kind(4, "E5", "E5=1E5+X");
+        kind(4, "OR", "OR=A.OR.B");
+        kind(4, "THEN", "IF(THEN)THEN");
+        kind(3, "STOP", "IF(STOP(1))STOP");
+        kind(4, "A", "A='A'");
         Desk desk = new Desk();
         desk.card("      A=1");
         desk.ask().clear();
@@ -180,6 +189,28 @@ public final class NameEdgeTest {
             type(1, "LOGICA", words[one] + "A");
             type(one + 1, "REAL", words[one] + "REAL");
         }
+    }
+
+    /** "texts of at most 80 characters": a name that ends with a full text. */
+    private static void namesInFullTexts() {
+        for (String name : new String[] {"A", "AB", "ABCDEF"}) {
+            String sum = "X=" + "1".repeat(77 - name.length()) + "+" + name;
+            PROBE.due("signs of " + sum, 80, sum.length());
+            kind(4, name, sum);
+            kind(0, "ABC", sum);
+        }
+        String[] types = {"B,".repeat(36) + "A", "B,".repeat(34) + "CD,AB", "B,".repeat(32) + "CD,ABCDEF"};
+        for (String names : types) {
+            String last = names.substring(names.lastIndexOf(',') + 1);
+            PROBE.due("signs of " + names, 80, "LOGICAL".length() + names.length());
+            kind(4, last, "LOGICAL" + names);
+            type(3, last, "LOGICAL" + names);
+        }
+        kind(4, "X", "X=" + "1".repeat(78));
+        kind(0, "X", "X=" + "1".repeat(77) + "+");
+        kind(3, "F", "X=" + "1".repeat(74) + "+F()");
+        kind(2, "S", "IF(" + "1".repeat(71) + ")CALLS");
+        kind(1, "A", "DIMENSION" + "B(1),".repeat(13) + "A(123)");
     }
 
     /** "0 if it is no name": a call that answers 0 changes nothing. */

@@ -26,6 +26,7 @@ public final class StructureEdgeTest {
         inThisOrder();
         theFirstStatementCounts();
         mostStatements();
+        fullTexts();
         askingChangesNothing();
         PROBE.end();
     }
@@ -291,6 +292,23 @@ public final class StructureEdgeTest {
         PROBE.fault(6, 23, "X=1;".repeat(23) + "GOTO10");
         PROBE.fault(2, 23, "10:X=1;" + "X=1;".repeat(22) + "10:END");
         PROBE.good("GOTO10;" + "X=1;".repeat(22) + "10:END");
+    }
+
+    /** "texts of at most 80 characters": digits that end with a full text. */
+    private static void fullTexts() {
+        for (String digits : new String[] {"1", "01", "12", "12345"}) {
+            String goTo = "IF(" + "1".repeat(80 - 8 - digits.length()) + ")GOTO" + digits;
+            PROBE.fault(6, 0, goTo + ";END");
+            PROBE.good(goTo + ";" + digits + ":END");
+        }
+        String none = "X=" + "1".repeat(77) + "+";
+        PROBE.fault(1, 0, none + ";END");
+        PROBE.good(none.substring(0, 79) + "1;END");
+        String loop = "DO10I=1," + "1".repeat(72);
+        PROBE.fault(6, 0, loop + ";END");
+        PROBE.good(loop + ";10:X=1;END");
+        PROBE.fault(6, 0, "GOTO(" + "1,".repeat(36) + "2)I;1:END");
+        PROBE.good("GOTO(" + "1,".repeat(36) + "1)I;1:END");
     }
 
     /** "The structure's first fault; 0 if there is none." "The statement that has it; NONE if there is none." */

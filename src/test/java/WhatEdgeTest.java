@@ -24,6 +24,7 @@ public final class WhatEdgeTest {
         noneOfThese();
         noSuchStatement();
         changedByACard();
+        endOfAFullText();
         PROBE.end();
     }
 
@@ -116,6 +117,9 @@ public final class WhatEdgeTest {
             PROBE.is(0, "IF(A)" + statements[what] + ")");
         }
         PROBE.is(4, "IF(A)IF(B)=1", "IF(A)DO1I=1", "IF(A)X=.TRUE.", "IF(A)GOTO12345", "IF(A)CALLS(1,2)");
+        // An IF stands at the beginning, not behind the beginning of something else.
+        PROBE.is(0, "GOTO(IF(A)STOP", "GOTO(1,IF(A)STOP", "GOTOIF(A)STOP", "DOIF(A)STOP", "CALLIF(A)STOP",
+                "REALIF(A)STOP");
         PROBE.is(0, "IF(A)", "IF(A)IF(B)STOP", "IF(A)GOTO123456", "IF(A)GOTO", "IF(A)CALLS()", "IF(A)X()=1",
                 "IF(A)PRINT*,");
     }
@@ -233,5 +237,42 @@ public final class WhatEdgeTest {
             PROBE.due("what behind " + cards[i], want[i], desk.ask().what(0));
         }
         PROBE.due("shown", "ENDIF(A)=(1+1)", desk.shown(0));
+    }
+
+    /** "texts of at most 80 characters": a full text that breaks off anywhere, and the same one behind a whole one. */
+    private static void endOfAFullText() {
+        String[] heads = {"IF(", "X=", "DO1I=", "CALLS(", "PRINT*,", "GOTO(1)"};
+        String[] tails = {")X(1,A)=F(-B)**.5E-3.OR..NOT..TRUE.", ")GOTO(1,20),(I)", ")CALLS(A,'B C')", ")PRINT*,A,B()",
+            ")THEN", ".LT.A,B,C", "+A(1)*(2)-3.", "/F().AND.'A'", ",1.EQ.2)"};
+        for (String head : heads) {
+            for (String tail : tails) {
+                for (int end = 0; end <= tail.length(); end++) {
+                    brokenOff(head, tail, end);
+                }
+            }
+        }
+        PROBE.is(15, "REAL" + "A,".repeat(37) + "BC");
+        PROBE.is(0, "REAL" + "A,".repeat(38));
+        PROBE.is(16, "DIMENSION" + "A(1),".repeat(13) + "AB(12)", "DIMENSION" + "A(12),".repeat(11) + "A(12)");
+        PROBE.is(0, "DIMENSION" + "A(1),".repeat(13) + "A(123,", "DIMENSION" + "A(12),".repeat(11) + "AB(12");
+        PROBE.is(0, "DIMENSION" + "A(1),".repeat(14) + "A", "DIMENSION" + "A(1),".repeat(13) + "ABCDE(");
+        PROBE.is(0, "GOTO(" + "1,".repeat(37) + "1", "GOTO(" + "1,".repeat(36) + "12)",
+                "GOTO(" + "1,".repeat(36) + "1),");
+        PROBE.is(17, "GOTO(" + "1,".repeat(36) + "1)I", "GOTO(" + "1,".repeat(35) + "12),I");
+    }
+
+    /** What a full text is cannot hang on what its row held before, nor on how long it is. */
+    private static void brokenOff(String head, String tail, int end) {
+        String rest = tail.substring(0, end);
+        String full = head + "1".repeat(80 - head.length() - rest.length()) + rest;
+        DeckFront brief = Probe.deck(head + "1" + rest);
+        DeckFront alone = Probe.deck(full);
+        PROBE.due("what of " + full, brief.what(0), alone.what(0));
+        Desk used = new Desk();
+        used.card("      " + (head + "1" + tail));
+        used.ask().clear();
+        used.card("      " + (head + "1" + rest));
+        PROBE.due("what of " + head + "1" + rest + " behind a longer one", brief.what(0), used.ask().what(0));
+        PROBE.due("shown of it", Probe.shown(brief, 0), used.shown(0));
     }
 }
